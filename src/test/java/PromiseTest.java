@@ -1,18 +1,5 @@
 /** Each promise of the document by answers worked out by hand: ordinary calls, the edges, wrong numbers. */
-public final class PromiseTest {
-    private static final int NONE = -1, UNKNOWN = -1000000001, OUTSIDE = -1000000002, NOT = -1000000003, FULL = -1000000004;
-    private static final int LOW = Integer.MIN_VALUE, HIGH = Integer.MAX_VALUE;
-
-    /*
-     * Strip 0 at the pole, 1 and 2 sewn to it and to one another, 3 to 2 alone.
-     * Seams: 0 pole-0 (5), 1 0-1 (3), 2 1-2 (4), 3 0-2 (2), 4 2-3 (1).
-     */
-    private static final String FLAG = "colours 5,2,9;strip 0;strip 1;strip 0;strip 2;pole 0 5;seam 0 1 3;seam 1 2 4;"
-        + "seam 0 2 2;seam 2 3 1;could 3 3 7;could 1 3 4;could 1 1 5;";
-
-    private static int right;
-    private static int wrong;
-
+public final class PromiseTest extends Check {
     public static void main(String[] args) {
         newObject();
         feed();
@@ -44,38 +31,7 @@ public final class PromiseTest {
         book();
         seed();
         images();
-        System.out.println("PromiseTest: " + right + " answers as due, " + wrong + " not");
-        if (wrong > 0) System.exit(1);
-    }
-
-    private static void due(String call, long got, long want) {
-        if (got == want) {
-            right++;
-        } else {
-            wrong++;
-            System.out.println(call + " answered " + got + ", due is " + want);
-        }
-    }
-
-    private static void tell(StripFlag x, String text) {
-        for (int i = 0; i < text.length(); i += 8) {
-            int n = Math.min(8, text.length() - i);
-            long bytes = 0;
-            for (int j = 0; j < n; j++) bytes = bytes << 8 | text.charAt(i + j);
-            x.feed(n, bytes);
-        }
-    }
-
-    private static StripFlag made(String text) {
-        StripFlag x = new StripFlag();
-        tell(x, text);
-        int n = x.flag();
-        if (n < 0) due("flag() of '" + text + "'", n, 0);
-        return x;
-    }
-
-    private static String times(int n, String s) {
-        return s.repeat(n);
+        end("PromiseTest");
     }
 
     private static void newObject() {
@@ -161,15 +117,6 @@ public final class PromiseTest {
         due("3 seams", x.told(2), 0);
         due("3 seams", x.told(5), 0);
         due("3 could", x.told(3), 0);
-    }
-
-    /** What text answers: FAULT number (0 none) and place. */
-    private static void reads(String text, int number, int place) {
-        StripFlag x = new StripFlag();
-        tell(x, text);
-        int got = x.flag();
-        due("3 flag of '" + text + "'", got < 0 ? -10 - got : 0, number);
-        due("4 fault of '" + text + "'", x.fault(), place);
     }
 
     private static void faultsOfWords() {
