@@ -302,21 +302,29 @@ public final class AllTest extends Check {
         due("the seed behind seven years", seedOf(z), 1768313486);
     }
 
+    /** What an image keeps: STRENGTHS, HEMS, COLOURS of STRIPS, THE SEED. */
+    private static String kept(StripFlag x) {
+        StringBuilder all = new StringBuilder();
+        for (int s = 0; s < 12; s++) all.append(x.seam(s, 2)).append(x.seam(s, 3) == 1 ? "h " : " ");
+        for (int a = 0; a < 8; a++) all.append("/").append(x.strip(a, 0));
+        return all.append(" s").append(seedOf(x)).toString();
+    }
+
     private static void imagesOfAll() {
         StripFlag x = made(WHOLE);
         for (int s = 0; s < 12; s++) x.hem(s, s % 3 == 0);
         x.seed(HIGH);
         x.keep(1);
-        String was = seen(x);
+        String was = kept(x);
         for (int s = 0; s < 12; s++) x.sew(s, 0);
         for (int s = 0; s < 12; s++) x.hem(s, s % 3 == 1);
         for (int a = 0; a < 8; a++) x.dye(a, 3 - a % 4);
         x.seed(0);
         due("keep", x.keep(0), 1);
-        String is = seen(x);
+        String is = kept(x);
         due("goBack", x.goBack(1), 1);
-        same("all of it", seen(x), was);
+        same("all of it", kept(x), was);
         due("goBack", x.goBack(0), 1);
-        same("all of the other", seen(x), is);
+        same("all of the other", kept(x), is);
     }
 }

@@ -16,7 +16,7 @@ public final class RoughTest {
         for (int run = 0; run < 1500; run++) {
             StripFlag x = new StripFlag();
             int calls = 0;
-            while (calls < 480) {
+            while (calls < 440) {
                 if (random.nextInt(40) == 0) {
                     String text = TEXTS[random.nextInt(TEXTS.length)];
                     for (int i = 0; i < text.length(); i++) {
